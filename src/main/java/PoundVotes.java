@@ -10,6 +10,7 @@ public final class PoundVotes {
     public static final int NONE = -1, BAD = -2, NOT = -3, FULL = -4;
 
     private static final int UNITS = 3, YEARS = 10, MOST_PARTIES = 4, MOST_VOTERS = 8;
+    private static final int MOST_CHANGES = 10, MOST_CONTRACTS = 8, MOST_BILLS = 6;
     private static final int FIGURES = 9;
     private static final int ALL_YEARS = (1 << YEARS) - 1;
     private static final int[] DIGEST_YEARS = {0, 1, 9};
@@ -31,9 +32,9 @@ public final class PoundVotes {
     private final Text tickets = new Text(TICKETS, MOST_PARTIES);
     private final Text voters = new Text(VOTERS, MOST_VOTERS);
     private final Text ratios = new Text(RATIOS, Worths.MOST_RATIOS);
-    private final Rows changes = new Rows(10, 4);
-    private final Rows contracts = new Rows(8, 6);
-    private final Rows bills = new Rows(6, 3);
+    private final Rows changes = new Rows(MOST_CHANGES, 4);
+    private final Rows contracts = new Rows(MOST_CONTRACTS, 6);
+    private final Rows bills = new Rows(MOST_BILLS, 3);
     private final int[] purses = new int[MOST_VOTERS];
     private final int[] held = new int[MOST_VOTERS];
     private final Roll roll = new Roll();
@@ -679,13 +680,11 @@ public final class PoundVotes {
         }
 
         int gain(int voter, int year, int party) {
-            return owedToVoters[voter] * figure(year, party, unitsOfVoters[voter]);
+            return owedToVoters[voter] * figures[year][party * UNITS + unitsOfVoters[voter]];
         }
 
         void fillGains(int voter, int year, int[] gains) {
-            for (int party = 0; party < parties; party++) {
-                gains[party] = owedToVoters[voter] * figure(year, party, unitsOfVoters[voter]);
-            }
+            for (int party = 0; party < parties; party++) gains[party] = gain(voter, year, party);
         }
     }
 
@@ -780,19 +779,20 @@ public final class PoundVotes {
         private final int[][] playerGains = new int[MOST_PLAYERS][MOST_PARTIES];
         private final int[] contentBits = new int[MOST_PLAYERS];
         private final int[] support = new int[UNITS * FIGURES * MOST_PARTIES];
+        private final int[] winVersions = new int[MOST_PARTIES];
+        private final int[] winTickets = new int[MOST_PARTIES];
+        private final int[] winUnlikeness = new int[MOST_PARTIES];
+        /** How PARTIES are unlike the first: in each UNIT's figure, and in what a VOTER GAINS. */
+        private final int[][] odds = new int[MOST_PARTIES][UNITS + 1];
         private int restVersion;
         private int restCount;
-        private int winVersion;
-        private int winParty;
-        private int winTicket;
-        private int winUnlikeness;
 
         Ballot(Roll roll) {
             this.roll = roll;
         }
 
         private int players() {
-            return Math.min(roll.voters, MOST_PLAYERS);
+            return roll.voters < MOST_PLAYERS ? roll.voters : MOST_PLAYERS;
         }
 
         private static int toldParty(int row, int player) {
@@ -898,20 +898,19 @@ public final class PoundVotes {
 
         int winningTicket(int party) {
             findWin(party);
-            return winTicket;
+            return winTickets[party];
         }
 
         int winningUnlikeness(int party) {
             findWin(party);
-            return winUnlikeness;
+            return winUnlikeness[party];
         }
 
         private void findWin(int party) {
-            if (winVersion == roll.version && winParty == party) return;
-            winVersion = roll.version;
-            winParty = party;
-            winTicket = NONE;
-            winUnlikeness = NONE;
+            if (winVersions[party] == roll.version) return;
+            winVersions[party] = roll.version;
+            winTickets[party] = NONE;
+            winUnlikeness[party] = NONE;
             fillSupport(party);
             for (int a = 1; a <= FIGURES; a++) {
                 for (int b = 1; b <= FIGURES; b++) {
@@ -942,27 +941,28 @@ public final class PoundVotes {
             int unlikeness = Math.abs(a - roll.figure(0, party, 0))
                     + Math.abs(b - roll.figure(0, party, 1))
                     + Math.abs(c - roll.figure(0, party, 2));
-            if (winTicket != NONE && unlikeness >= winUnlikeness) return;
+            if (winTickets[party] != NONE && unlikeness >= winUnlikeness[party]) return;
             for (int p = 0; p < roll.parties; p++) {
                 tally[p] = support[supportPlace(0, a) + p]
                         + support[supportPlace(1, b) + p]
                         + support[supportPlace(2, c) + p];
             }
             if (greatest(tally, 0, roll.parties, NONE) != party) return;
-            winTicket = 100 * a + 10 * b + c;
-            winUnlikeness = unlikeness;
+            winTickets[party] = 100 * a + 10 * b + c;
+            winUnlikeness[party] = unlikeness;
         }
 
         /** Rows come from the least on: a later one has to be less together. */
         int evenHolding(int voter) {
             int best = NONE;
             int bestSum = 0;
+            fillOdds(voter);
             for (int a = 0; a <= 9; a++) {
                 for (int b = 0; b <= 9; b++) {
                     for (int c = 0; c <= 9; c++) {
                         int sum = a + b + c;
                         if (best != NONE && sum >= bestSum) break;
-                        if (!isEven(voter, a, b, c)) continue;
+                        if (!isEven(a, b, c)) continue;
                         best = 100 * a + 10 * b + c;
                         bestSum = sum;
                     }
@@ -971,16 +971,21 @@ public final class PoundVotes {
             return best;
         }
 
-        private boolean isEven(int voter, int a, int b, int c) {
+        private void fillOdds(int voter) {
             for (int party = 1; party < roll.parties; party++) {
-                if (holdingBy(voter, party, a, b, c) != holdingBy(voter, 0, a, b, c)) return false;
+                for (int unit = 0; unit < UNITS; unit++) {
+                    odds[party][unit] = roll.figure(0, party, unit) - roll.figure(0, 0, unit);
+                }
+                odds[party][UNITS] = roll.gain(voter, 0, party) - roll.gain(voter, 0, 0);
             }
-            return true;
         }
 
-        private int holdingBy(int voter, int party, int a, int b, int c) {
-            return roll.gain(voter, 0, party) + a * roll.figure(0, party, 0)
-                    + b * roll.figure(0, party, 1) + c * roll.figure(0, party, 2);
+        private boolean isEven(int a, int b, int c) {
+            for (int party = 1; party < roll.parties; party++) {
+                int[] row = odds[party];
+                if (a * row[0] + b * row[1] + c * row[2] + row[UNITS] != 0) return false;
+            }
+            return true;
         }
     }
 

@@ -398,6 +398,11 @@ public final class PromiseTest {
         due("18 bad", x.ruined(-1), BAD);
         due("18 none", new PoundVotes().ruined(0), NONE);
         due("18 none", new PoundVotes().ruined(1), NONE);
+        x.change(3, 0, 1, 8);
+        x.contract(2, 3, 10, 1, 2, 3);
+        due("19 right behind a change", x.worst(2), 50);
+        x.back(0);
+        due("19 right behind its undoing", x.worst(2), 0);
         PoundVotes y = with("911;191", "a+1;b+2");
         y.contract(0, 1, 5, 1, 0, 9);
         due("17 by the law", y.money(0, 9), 95);
@@ -435,7 +440,12 @@ public final class PromiseTest {
         PoundVotes y = with("111;999", "a+1;a+1;a+1;a+1;a-1;a-1;a-1;a-1");
         due("20 the seventh and eighth vote as they do", y.rest(1 + 4 + 16 + 64), 1);
         due("20 a tie is the first party's", y.rest(1 + 4 + 16 + 64 + 256), 0);
-        due("20 the fifth party is not asked", y.rest(4095), BAD);
+        due("20 no fourth party", y.rest(4095), BAD);
+        int before = y.rests();
+        y.change(1, 0, 0, 9);
+        y.change(1, 1, 0, 1);
+        due("20 year 0 alone", y.rest(1 + 4 + 16 + 64), 1);
+        due("21 year 0 alone", y.rests(), before);
     }
 
     private static void wins() {
@@ -464,6 +474,19 @@ public final class PromiseTest {
         due("22 of like ones the least", x.wins(0, 0), 565);
         due("22 of like ones the least", x.wins(0, 1), 1);
         due("22 no parties", new PoundVotes().wins(0, 0), BAD);
+        due("22 the greatest figure", with("811;111", "a+1").wins(1, 0), 911);
+        due("22 the greatest figure", with("181;111", "b+1").wins(1, 0), 191);
+        due("22 the greatest figure", with("118;111", "c+1").wins(1, 1), 8);
+        due("22 the least figure", with("211;911", "a-1").wins(1, 0), 111);
+        due("22 the least figure", with("121;191", "b-1").wins(1, 0), 111);
+        due("22 the least figure", with("112;119", "c-1").wins(1, 1), 8);
+        x = with("444;333", "a+1;b+1;c+1");
+        for (int unit = 0; unit < 3; unit++) {
+            x.change(1, 0, unit, 9);
+            x.change(1, 1, unit, 8);
+        }
+        due("22 year 0 alone", x.wins(1, 0), 355);
+        due("22 year 0 alone", x.wins(1, 1), 4);
     }
 
     private static void hedge() {
@@ -485,6 +508,14 @@ public final class PromiseTest {
         due("23 alike without", x.hedge(0), 0);
         due("23", x.hedge(1), 10);
         due("23", x.hedge(2), 90);
+        due("23 of like ones the least", with("221;111", "a-1").hedge(0), 10);
+        due("23 nine", with("911;111", "a-9").hedge(0), 900);
+        due("23 nine", with("191;111", "b-9").hedge(0), 90);
+        due("23 nine", with("119;111", "c-9").hedge(0), 9);
+        due("23 more than nine", with("111;191", "b+9").hedge(0), NONE);
+        x = with("211;122", "a+1");
+        for (int unit = 0; unit < 3; unit++) x.change(1, 1, unit, 9 - unit);
+        due("23 year 0 alone", x.hedge(0), 1);
         due("23 one party", with("123", "a+9").hedge(0), 0);
         due("23 no parties", with("", "a+9").hedge(0), 0);
     }
@@ -721,6 +752,9 @@ public final class PromiseTest {
         due("37", x.get(0, 2, 1), 396);
         due("37", x.get(0, 2, 7), 70);
         due("37 others stay", x.get(0, 2, 8), 80);
+        x.change(0, 0, 2, 9);
+        due("37 right behind a change", x.write(4, 0), 8);
+        due("37 right behind a change", x.get(0, 2, 1), 99 * 9);
         due("37 null", x.write(0, 3), NULL);
         due("37 bad ahead of null", x.write(10, 3), BAD);
         due("37 bad", x.write(-1, 0), BAD);
