@@ -2,35 +2,7 @@
  * Each promise by itself: ordinary numbers, the edges that the document names, and wrong numbers.
  * Answers were worked out by hand from the document.
  */
-public final class PromiseTest {
-    private static final int LEAST = Integer.MIN_VALUE, MOST = Integer.MAX_VALUE;
-    private static final long LONG_BAD = Long.MIN_VALUE + 2, LONG_NOT = Long.MIN_VALUE + 3;
-    private static final int NONE = -1, BAD = -2, NOT = -3, FULL = -4;
-    private static final int NULL = -11, INDEX = -12, CAST = -13, STORE = -14, SIZE = -15;
-    private static int wrong = 0;
-
-    private static void due(String what, long got, long want) {
-        if (got == want) return;
-        wrong++;
-        System.out.println(what + " answered " + got + ", due is " + want);
-    }
-
-    private static void typed(PoundVotes x, int text, String bytes) {
-        for (int i = 0; i < bytes.length(); i++) x.type(text, bytes.charAt(i));
-    }
-
-    private static PoundVotes with(String tickets, String voters, String ratios) {
-        PoundVotes x = new PoundVotes();
-        typed(x, 0, tickets);
-        typed(x, 1, voters);
-        typed(x, 2, ratios);
-        return x;
-    }
-
-    private static PoundVotes with(String tickets, String voters) {
-        return with(tickets, voters, "");
-    }
-
+public final class PromiseTest extends Checks {
     private static void newObject() {
         PoundVotes x = new PoundVotes();
         for (int what = 0; what <= 8; what++) due("1 count", x.count(what), 0);
@@ -782,31 +754,6 @@ public final class PromiseTest {
         due("38 bad", x.count(-1), BAD);
     }
 
-    /** The row of the document by calls of the same object. */
-    private static long digestOf(PoundVotes x) {
-        long h = 17;
-        for (int i = 0; i <= 7; i++) h = 31 * h + x.count(i);
-        for (int i = 0; i <= 2; i++) h = 31 * h + x.fault(i);
-        for (int year = 0; year <= 9; year = year == 1 ? 9 : year + 1) {
-            for (int unit = 0; unit < 3; unit++) {
-                h = 31 * (31 * h + x.elected(year, unit)) + x.great(year, unit);
-                for (int p = 0; p < x.count(0); p++) {
-                    h = 31 * (31 * h + x.ticket(year, p, unit)) + x.votes(year, unit, p);
-                }
-            }
-        }
-        h = 31 * h + x.split();
-        for (int v = 0; v < 8; v++) h = 31 * (31 * h + x.money(v, 9)) + x.hedge(v);
-        h = 31 * (31 * h + x.ruined(0)) + x.ruined(1);
-        for (int i = 0; i < x.count(4); i++) h = 31 * h + x.worst(i);
-        h = 31 * (31 * h + x.rest(0)) + x.rests();
-        for (int p = 0; p < x.count(0); p++) h = 31 * (31 * h + x.wins(p, 0)) + x.wins(p, 1);
-        for (int b = 1; b <= 5; b++) h = 31 * (31 * h + x.worth(0, b, 0)) + x.worth(0, b, 1);
-        h = 31 * (31 * h + x.clash()) + x.drop();
-        for (int i = -2; i <= 2; i++) h = 31 * h + x.round(i);
-        return 31 * h + x.years();
-    }
-
     private static void digest() {
         PoundVotes x = with("912;345;581;155", "a+5;a-3;b+2;c-9;b-1", "ab3;ef7;ba2");
         due("39 right behind the typing", x.digest(), digestOf(x));
@@ -852,7 +799,6 @@ public final class PromiseTest {
         readAndWrite();
         count();
         digest();
-        System.out.println(wrong == 0 ? "all promises are kept" : wrong + " answers are not as due");
-        if (wrong != 0) System.exit(1);
+        end("all promises are kept");
     }
 }
