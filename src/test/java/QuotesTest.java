@@ -9,7 +9,7 @@ import java.util.regex.Pattern;
 import java.util.stream.Stream;
 
 /**
- * Holds the tests to the document: each says("..") of a test stands in it word by word, in one place, and no
+ * Holds the tests to the document: what a test says by says() stands in it word by word, in one place, and no
  * sentence from its terms to its last promise is without a test that says it.
  */
 public final class QuotesTest extends Checks {

@@ -376,6 +376,14 @@ public final class SheetEdgesTest extends Checks {
         x = busy();
         x.set(0, 2);
         due("by another law", x.digest(), digestOf(x));
+        x = with("111;211", "a+1");
+        due("row 0 is no rest", x.rest(0), 0);
+        due("row 0, and no other one", x.digest(), digestOf(x));
+        x = with("111", "a+1");
+        for (int year : new int[] {1, 2, 8, 9}) x.change(year, 0, 0, year);
+        x.contract(0, 1, 50, 0, 0, 8);
+        x.contract(0, 1, 10, 0, 0, 9);
+        due("years 0, 1 and 9, and no other ones", x.digest(), digestOf(x));
     }
 
     private static PoundVotes busy() {

@@ -161,6 +161,10 @@ public final class TradeEdgesTest extends Checks {
         roundIs("two towns, and none behind them", x, 3, 1, 0, 2);
         x.rate(2, 0, 1, 3);
         roundIs("none gains any more", x, 1, 1);
+        x = dearTowns(0, 1, 9, 8, 1, 0, 1, 1);
+        roundIs("nine by eight", x, 9, 8, 0, 1);
+        x.rate(0, 1, 8, 9);
+        roundIs("none gains any more", x, 1, 1);
     }
 
     private static void mostBills() {
@@ -200,6 +204,10 @@ public final class TradeEdgesTest extends Checks {
         due("the first year", x.years(), 1);
         x.bill(1, 0, 2);
         due("all of them, not some", x.years(), 0);
+        x = with("123", "a+1");
+        x.bill(1, 0, 2);
+        x.bill(1, 1, 2);
+        due("the first does not hold", x.years(), 0);
     }
 
     private static void worth() {

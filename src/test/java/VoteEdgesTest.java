@@ -48,6 +48,10 @@ public final class VoteEdgesTest extends Checks {
         x = with("111;211", "a+1");
         due("one alone has what it would", x.rest(1), 1);
         due("one alone would have more", x.rest(0), 0);
+        x = with("211;111;111", "a+1");
+        due("one alone has what it would", x.rest(0), 1);
+        due("one alone would have more by the first party", x.rest(1), 0);
+        due("one alone would have more by the first party", x.rest(2), 0);
         x = with("111;511;911", "b+1;b+1;b+1;b+1;b+1;b+1;a+1");
         due("the seventh would, but is not asked", x.rest(64 + 256 + 1024), 1);
         x = with("111;511;911", "a+1;b+1;b+1;b+1;b+1;b+1;b+1");
@@ -95,8 +99,12 @@ public final class VoteEdgesTest extends Checks {
             x.set(0, law);
             due("law 0, whatever the law is", x.wins(1, 0), 645);
         }
-        x.change(1, 1, 0, 9);
+        for (int unit = 0; unit < 3; unit++) {
+            x.change(1, 1, unit, 9);
+            x.change(1, 0, unit, 2);
+        }
         due("year 0 alone", x.wins(1, 0), 645);
+        due("year 0 alone", x.wins(1, 1), 2);
         x.change(0, 1, 0, 9);
         due("its own in year 0", x.wins(1, 0), 945);
         due("its own in year 0", x.wins(1, 1), 1);
@@ -128,12 +136,18 @@ public final class VoteEdgesTest extends Checks {
         due("nine of the third", with("119;111", "c-9").hedge(0), 9);
         // By 1 instead of 0: a is 3 more, b 1 and c 2 less; 27 more are to be made good.
         due("nine of two", with("123;411", "a+9").hedge(0), 99);
-        due("ten would be needed", with("123;511", "a+9").hedge(0), NONE);
+        due("nine of the first", with("211;121", "b+9").hedge(0), 900);
+        due("ten of the first would be needed", with("211;131", "b+5").hedge(0), NONE);
+        due("ten of the second would be needed", with("121;311", "a+5").hedge(0), NONE);
+        due("ten of the third would be needed", with("112;311", "a+5").hedge(0), NONE);
         due("all parties, not two of them", with("123;411;111", "a+9").hedge(0), NONE);
         due("the last party, too", with("111;111;111;119", "c-3").hedge(0), 3);
         due("none is needed", with("119;111", "a+9").hedge(0), 0);
         PoundVotes x = with("911;111", "a-5");
-        x.change(1, 0, 0, 1);
+        for (int unit = 0; unit < 3; unit++) {
+            x.change(1, 0, unit, 5 - unit);
+            x.change(1, 1, unit, 6 + unit);
+        }
         due("year 0 alone", x.hedge(0), 500);
         x.change(0, 0, 0, 1);
         due("with its changes", x.hedge(0), 0);

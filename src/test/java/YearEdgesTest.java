@@ -246,6 +246,14 @@ public final class YearEdgesTest extends Checks {
         x.set(0, 1);
         due("though another one is elected", x.elected(1, 0), 1);
         due("whatever the law", x.split(), 1);
+        x.set(0, 2);
+        x.change(1, 1, 0, 7);
+        due("right behind a change, whatever the law", x.split(), 1023);
+        x.change(1, 0, 0, 7);
+        due("right behind a change, whatever the law", x.split(), 1);
+        x.set(0, 1);
+        x.back(0);
+        due("right behind its undoing", x.split(), 1023);
         due("the second unit alone", with("111;191", "b+1;a-1;c-1").split(), 1023);
         due("the third unit alone", with("111;119", "c+1;a-1;b-1").split(), 1023);
     }
