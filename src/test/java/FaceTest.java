@@ -76,7 +76,10 @@ public final class FaceTest {
         for (Class<?> c : inside) {
             hold(Modifier.isStatic(c.getModifiers()), c + " is static");
             hold(!Modifier.isPublic(c.getModifiers()), c + " is not public");
-            for (Method m : c.getDeclaredMethods()) hold(m.getParameterCount() <= 7, m + " takes seven at most");
+            for (Method m : c.getDeclaredMethods()) {
+                hold(m.getParameterCount() <= 7, m + " takes seven at most");
+                hold(!(" " + FACE).matches(".* " + m.getName() + "\\d.*"), m + " bears a name of its own");
+            }
             fields(c);
         }
     }
@@ -90,8 +93,25 @@ public final class FaceTest {
         hold(text.chars().allMatch(c -> c < 127), "the source has plain signs alone");
     }
 
+    /** The lines of the document's face and the public lines of the source are the same ones, in the same order. */
+    private static void document() throws IOException {
+        Path document = Path.of("../shared/DOC.md");
+        if (!Files.isReadable(document)) return;
+        String told = Files.readString(document).replaceAll("(?s).*```java\n(.*?)```.*", "$1");
+        String source = Files.readString(Path.of("src/main/java/PoundVotes.java"));
+        hold(publicLines(told).equals(publicLines(source)), "the source has the document's face:\n" + publicLines(source));
+    }
+
+    private static String publicLines(String text) {
+        StringBuilder lines = new StringBuilder();
+        Matcher m = Pattern.compile("(?m)^ *(public [^;{]*)").matcher(text);
+        while (m.find()) lines.append(m.group(1).strip()).append('\n');
+        return lines.toString();
+    }
+
     public static void main(String[] args) throws IOException {
         face();
+        document();
         constants();
         classes();
         source();

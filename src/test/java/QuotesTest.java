@@ -10,7 +10,7 @@ import java.util.stream.Stream;
 
 /**
  * Holds the tests to the document: what a test says by says() stands in it word by word, in one place, and no
- * sentence from its terms to its last promise is without a test that says it.
+ * sentence from its UNITS to its last promise is without a test that says it. The face is FaceTest's.
  */
 public final class QuotesTest extends Checks {
     private static final Path DOCUMENT = Path.of("../shared/DOC.md"), TESTS = Path.of("src/test/java");
@@ -51,12 +51,12 @@ public final class QuotesTest extends Checks {
 
     /** What is no promise: headings, the faces of calls, and where the interface has its lines. */
     private static void markFrame(String text, boolean[] said) {
-        Matcher m = Pattern.compile("## Terms|## Promise \\d+: [a-zA-Z ]+(?= `)|`[^`]*\\)`:|Ahead of the calls.*?: ---- [a-z, ]+\\.").matcher(text);
+        Matcher m = Pattern.compile("## The public face.*?## Terms|## Promise \\d+: [a-zA-Z ]+(?= `)|`[^`]*\\)`:|Ahead of the calls.*?: ---- [a-z, ]+\\.").matcher(text);
         while (m.find()) for (int i = m.start(); i < m.end(); i++) said[i] = true;
     }
 
     private static void unsaid(String text, boolean[] said) {
-        int from = text.indexOf("## Terms"), to = text.indexOf("## Not promised");
+        int from = text.indexOf("UNITS are 0 to 2."), to = text.indexOf("## Not promised");
         StringBuilder gap = new StringBuilder();
         for (int i = from; i <= to; i++) {
             if (i < to && !said[i]) {

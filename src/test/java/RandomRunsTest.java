@@ -120,7 +120,7 @@ public final class RandomRunsTest {
 
     private boolean run() throws ReflectiveOperationException {
         for (int text = 0; text < 3; text++) if (random.nextInt(8) != 0) typeWhole(text);
-        while (told.size() < CALLS && !wrong) {
+        while (told.size() < CALLS - 1 && !wrong) {
             int luck = random.nextInt(100);
             if (luck == 0) typeWhole(random.nextInt(3));
             else if (luck < 40) drawn(ACTS[3 + random.nextInt(ACTS.length - 3)]);

@@ -15,6 +15,14 @@ public final class TextEdgesTest extends Checks {
         due("items of " + bytes, x.count(text), place == NONE ? (bytes.length() + 1) / 4 : 0);
     }
 
+    private static void lastCall() {
+        says("An object is used for at most 512 calls after it has been made; what later calls answer is free.");
+        PoundVotes x = with("123;456", "a+1");
+        for (int call = 11; call <= 510; call++) due("call " + call, x.type(2, 256), BAD);
+        due("call 511", x.set(0, 1), 0);
+        due("call 512", x.great(9, 0), 4);
+    }
+
     private static void units() {
         says("UNITS are 0 to 2.");
         PoundVotes x = with("123;456", "a+1");
@@ -518,6 +526,7 @@ public final class TextEdgesTest extends Checks {
     }
 
     public static void main(String[] args) {
+        lastCall();
         units();
         ticketBytes();
         mostParties();
